@@ -614,6 +614,11 @@ public final class ScopeInterpreter {
                 write(binding, value, secondAt(binding));
                 return true;
             }
+            return addBinding(environment, symbol, value);
+        }
+
+        /** For a symbol that has no own binding yet; returns false if the heap is full. */
+        boolean addBinding(int environment, int symbol, long value) {
             int created = add(value, packLink(symbol, latestBindingOf(environment)));
             if (created == NO_ROW) {
                 return false;
@@ -714,10 +719,13 @@ public final class ScopeInterpreter {
             return false;
         }
 
-        /** Returns false if the heap is full before all of the symbols are bound. */
+        /**
+         * Binds the symbols in a new environment, which need no search there, as no symbol is twice in a
+         * tree. Returns false if the heap is full before all are bound.
+         */
         boolean bindFound(int environment) {
             for (int index = 0; index < symbolCount && index < Word.SYMBOLS; index++) {
-                if (!heap.bind(environment, symbols[index], parts[index])) {
+                if (!heap.addBinding(environment, symbols[index], parts[index])) {
                     return false;
                 }
             }
@@ -1147,9 +1155,10 @@ public final class ScopeInterpreter {
             evaluateInTail(heap.bodyOf(operative));
         }
 
+        /** The environment parameter is not in the tree, so it has no binding in the new environment yet. */
         private boolean bindCaller(int inner, int symbol) {
             return symbol == Heap.NO_SYMBOL
-                    || heap.bind(inner, symbol, Word.make(Word.ENVIRONMENT, environment));
+                    || heap.addBinding(inner, symbol, Word.make(Word.ENVIRONMENT, environment));
         }
 
         // ---- primitive operatives and their operands

@@ -23,6 +23,7 @@ public final class MachineTest {
         heapFullInParts();
         heapFullNotNeeded();
         nestedApplicatives();
+        manyFailuresAmongArguments();
         check.finish();
     }
 
@@ -253,5 +254,18 @@ public final class MachineTest {
         lisp.costs("(begin (w) (w) (w))", 8, 2, 0);
         lisp.givesInteger("(w 5)", 5);
         check.due("steps of (w 5)", lisp.x.latest(0), 2 + 101);
+    }
+
+    /** What failed evaluations leave unfinished must not be in the way of later ones. */
+    private static void manyFailuresAmongArguments() {
+        Lisp lisp = new Lisp(check);
+        lisp.push("(list 1 2 3 4 5 6 7 8 9 10 11 12 13 14 15 (add 1 2 3 4 5 6 7 8 9 10 11 12 13 14 15 z))");
+        for (int count = 0; count < 200; count++) {
+            lisp.x.pushCopy(0);
+            check.due("failure " + count, lisp.x.evaluate(), UNBOUND);
+            check.due("latest(1)", lisp.x.latest(1), 2);
+        }
+        lisp.givesList("(list 1 (add 2) 3)", 1, 2, 3);
+        check.due("latest(1)", lisp.x.latest(1), 2);
     }
 }

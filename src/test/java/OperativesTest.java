@@ -115,8 +115,10 @@ public final class OperativesTest {
         }
         lisp.givesKind("(vau (a #inert () #inert ()) #inert 1)", 5);
         lisp.givesKind("(vau (if . vau) lambda c)", 5);
-        lisp.evaluate("(scope)");
-        check.due("size", lisp.x.size(), 1);
+        lisp.fails("(vau (1 b) #inert c)", BAD_OPERANDS);
+        lisp.givesInteger("((vau (b) #inert b) 5)", 5);
+        lisp.fails("((vau (() b c) #inert b) 5 6 7)", BAD_OPERANDS);
+        lisp.givesInteger("((vau (b) #inert b) 5)", 5);
     }
 
     /** A list of so many inert values, ending with a symbol, as a parameter tree; then ready to evaluate. */
