@@ -33,9 +33,7 @@ public final class BuildingTest {
         check.due("the cdr is the uppermost", x.value(0), 3);
         check.due("the one below stays", x.value(3), 1);
         ScopeInterpreter y = new ScopeInterpreter();
-        while (y.size() < 40) {
-            y.pushInteger(1);
-        }
+        Lisp.fillStack(y);
         check.due("makePair(), full stack", y.makePair(), 39);
     }
 
@@ -104,9 +102,7 @@ public final class BuildingTest {
         check.due("value", x.value(3), 0);
         x.drop(3);
         check.due("makePair(), full, one value", x.makePair(), TOO_FEW);
-        while (x.size() < 40) {
-            x.pushInteger(1);
-        }
+        Lisp.fillStack(x);
         check.due("makeList(0), full heap and stack", x.makeList(0), STACK_FULL);
         check.due("makeList(1), full heap and stack", x.makeList(1), HEAP_FULL);
         check.due("reset()", x.reset(), 4000);

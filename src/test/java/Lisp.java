@@ -157,11 +157,17 @@ final class Lisp {
 
     /** Fills the heap until there is room for this many objects. */
     void leaveRoom(int objects) {
-        while (4000 - x.heapSize() > objects) {
+        for (int made = 0; made < 4000 && 4000 - x.heapSize() > objects; made++) {
             x.pushEmpty(false);
             x.pushEmpty(false);
             x.makePair();
             x.drop(1);
+        }
+    }
+
+    static void fillStack(ScopeInterpreter x) {
+        for (int count = x.size(); count < 40; count++) {
+            x.pushInteger(1);
         }
     }
 }

@@ -188,9 +188,7 @@ public final class StackTest {
         ScopeInterpreter x = lisp.x;
         lisp.evaluate("(environment)");
         lisp.push("(1)");
-        while (x.size() < 40) {
-            x.pushInteger(1);
-        }
+        Lisp.fillStack(x);
         check.due("car, full", x.pushPart(38, 0), STACK_FULL);
         check.due("no such part, full", x.pushPart(0, 0), WRONG_KIND);
         check.due("no parent, full", x.pushPart(39, 0), STACK_FULL);
@@ -231,9 +229,7 @@ public final class StackTest {
     private static void bindingsWithFullStack() {
         ScopeInterpreter x = new ScopeInterpreter();
         x.pushEnvironment();
-        while (x.size() < 40) {
-            x.pushInteger(1);
-        }
+        Lisp.fillStack(x);
         check.due("bound, full", x.pushBinding(39, 1), STACK_FULL);
         check.due("unbound, full", x.pushBinding(39, 50), UNBOUND);
         check.due("wrong kind, full", x.pushBinding(0, 50), WRONG_KIND);
