@@ -220,16 +220,17 @@ public final class ApplicativesTest {
     }
 
     private static void underlyingOperatives() {
-        Lisp lisp = new Lisp(check);
         String[] names = {
             "add", "multiply", "subtract", "less", "same", "cons", "car", "cdr", "is-nil", "is-pair", "eval",
             "wrap", "unwrap", "environment", "apply", "list"
         };
         for (String name : names) {
+            Lisp lisp = new Lisp(check);
             lisp.failsAfter("((unwrap " + name + ") . 5)", BAD_OPERANDS, 4, 2, 1);
             lisp.fails("((unwrap " + name + ") 1 . 5)", BAD_OPERANDS);
             lisp.fails("((unwrap " + name + ") 1 2 . 5)", BAD_OPERANDS);
         }
+        Lisp lisp = new Lisp(check);
         lisp.givesBoolean("((unwrap is-pair) (1 2))", true);
         lisp.gives("((unwrap car) (a b))", 2, 40);
     }

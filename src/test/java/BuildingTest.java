@@ -61,8 +61,7 @@ public final class BuildingTest {
     }
 
     private static void listOfForty() {
-        Lisp lisp = new Lisp(check);
-        ScopeInterpreter x = lisp.x;
+        ScopeInterpreter x = new ScopeInterpreter();
         for (int number = 0; number < 40; number++) {
             x.pushInteger(number);
         }
@@ -70,16 +69,14 @@ public final class BuildingTest {
         check.due("makeList(40)", x.makeList(40), 1);
         check.due("length", x.length(0), 40);
         check.due("heapSize", x.heapSize(), 40);
-        lisp.run("(define f (vau (l) e (set e l l)))");
-        lisp.push("f");
-        x.pushCopy(1);
-        x.makeList(2);
-        check.due("the list gets a name", x.evaluate() > 0);
-        for (int number = 0; number < 40; number++) {
-            lisp.givesInteger("(car l)", number);
-            lisp.run("(define l (cdr l))");
+        for (int number = 0; number < 38; number++) {
+            x.pushPart(0, 0);
+            check.due("element", x.value(0), number);
+            x.drop(1);
+            x.pushPart(0, 1);
         }
-        lisp.givesBoolean("(is-nil l)", true);
+        x.pushPart(0, 0);
+        check.due("element", x.value(0), 38);
     }
 
     private static void fullHeap() {

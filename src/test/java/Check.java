@@ -15,6 +15,14 @@ final class Check {
         due(what, holds ? 1 : 0, 1);
     }
 
+    void same(String what, String got, String want) {
+        seen++;
+        if (!got.equals(want)) {
+            wrong++;
+            System.out.println(what + ": there is " + got + ", due is " + want);
+        }
+    }
+
     /** To be called last: ends the program with exit code 1 if an answer was wrong. */
     void finish() {
         System.out.println(seen + " answers, " + wrong + " of them wrong");

@@ -1,6 +1,9 @@
 /**
  * An interpreter under test that takes expressions as texts. Names of ground symbols are those of
- * GROUND; a to z are the symbols 40 to 65; sN is symbol N; #t, #f and #inert are what they say.
+ * GROUND; a to z are the symbols 40 to 65; sN is symbol N; #t, #f and #inert are what they say;
+ * #env is the present environment itself, and @name the value that the name has there.
+ *
+ * <p>Nothing is promised about an object after its 512th call, so a test takes a new one in time.
  */
 final class Lisp {
     private static final String[] GROUND = {
@@ -8,6 +11,14 @@ final class Lisp {
         "add", "multiply", "subtract", "less", "same", "cons", "car", "cdr", "is-nil", "is-pair",
         "eval", "wrap", "unwrap", "environment", "apply", "list"
     };
+
+    /** A text for each kind of value; what it pushes is of the kind that is its index. */
+    static final String[] OF_KIND = {"5", "#t", "a", "()", "(1)", "@if", "@add", "#env", "#inert"};
+    static final int NIL = 3;
+    static final int PAIR = 4;
+    static final int OPERATIVE = 5;
+    static final int APPLICATIVE = 6;
+    static final int ENVIRONMENT = 7;
 
     final ScopeInterpreter x = new ScopeInterpreter();
     private final Check check;
@@ -38,6 +49,11 @@ final class Lisp {
             x.pushBoolean(token.equals("#t"));
         } else if (token.equals("#inert")) {
             x.pushEmpty(true);
+        } else if (token.equals("#env")) {
+            x.pushEnvironment();
+        } else if (token.startsWith("@")) {
+            x.pushSymbol(symbol(token.substring(1)));
+            x.evaluate();
         } else if (token.matches("-?[0-9]+")) {
             x.pushInteger(Long.parseLong(token));
         } else {
@@ -155,13 +171,47 @@ final class Lisp {
         check.due(text + ": new objects", x.heapSize() - before, objects);
     }
 
-    /** Fills the heap until there is room for this many objects. */
+    /**
+     * Fills the heap until there is room for this many objects; the value stack needs room for some
+     * 15 values meanwhile. An operative that calls itself without end makes 8 objects in every two
+     * steps, and the limit of steps says how often; so that some 60 calls are enough.
+     */
     void leaveRoom(int objects) {
-        for (int made = 0; made < 4000 && 4000 - x.heapSize() > objects; made++) {
+        int limit = x.setLimit(1000);
+        x.pushEnvironment();
+        evaluate("(environment (scope))");
+        x.useEnvironment();
+        run("(define z (vau (a b c d e f g) #inert (z 1 2 3 4 5 6 7)))");
+        push("(z 1 2 3 4 5 6 7)");
+        int rounds = (4000 - objects - x.heapSize()) / 8;
+        x.setLimit(Math.max(2 * rounds, 1));
+        x.evaluate();
+        x.useEnvironment();
+        int left = 4000 - objects - x.heapSize();
+        if (rounds < 1 || left < 0 || left > 7) {
+            throw new IllegalStateException("there is not so much room to fill");
+        }
+        for (int count = 0; count < left; count++) {
             x.pushEmpty(false);
+        }
+        x.makeList(left);
+        x.drop(1);
+        x.setLimit(limit);
+    }
+
+    /** Makes so many pairs that nobody holds. */
+    void waste(int objects) {
+        for (int count = 0; count < objects; count++) {
             x.pushEmpty(false);
-            x.makePair();
-            x.drop(1);
+        }
+        x.makeList(objects);
+        x.drop(1);
+    }
+
+    /** Puts the value on the stack into so many lists of one element: each is an operator's frame. */
+    void nest(int lists) {
+        for (int count = 0; count < lists; count++) {
+            x.makeList(1);
         }
     }
 

@@ -1,11 +1,10 @@
-/** Promises 20 to 25: limits of steps, frames and the heap, and the calls around evaluate(). */
+/** Promises 20 to 24: limits of steps and frames, and the calls around evaluate(). */
 public final class MachineTest {
     private static final int BAD_VALUE = ScopeInterpreter.BAD_VALUE;
     private static final int TOO_FEW = ScopeInterpreter.TOO_FEW;
     private static final int WRONG_KIND = ScopeInterpreter.WRONG_KIND;
     private static final int STEP_LIMIT = ScopeInterpreter.STEP_LIMIT;
     private static final int DEPTH_LIMIT = ScopeInterpreter.DEPTH_LIMIT;
-    private static final int HEAP_FULL = ScopeInterpreter.HEAP_FULL;
     private static final int UNBOUND = ScopeInterpreter.UNBOUND;
     private static final Check check = new Check();
 
@@ -17,13 +16,7 @@ public final class MachineTest {
         endlessLoop();
         tailCalls();
         depthLimit();
-        depthBeforeSteps();
         latestNumbers();
-        heapFull();
-        heapFullInParts();
-        heapFullNotNeeded();
-        nestedApplicatives();
-        manyFailuresAmongArguments();
         check.finish();
     }
 
@@ -130,25 +123,7 @@ public final class MachineTest {
         check.due("apply needs no frame", lisp.x.latest(1) <= 3);
     }
 
-    /** Pushes nested combinations of the car alone: (((add))) for 3; each of them needs a frame. */
-    private static void pushNested(ScopeInterpreter x, int combinations) {
-        x.pushSymbol(10);
-        for (int count = 0; count < combinations; count++) {
-            x.pushEmpty(false);
-            x.makePair();
-        }
-    }
-
     private static void depthLimit() {
-        ScopeInterpreter x = new ScopeInterpreter();
-        pushNested(x, 300);
-        check.due("300 frames; then 0 is no combiner", x.evaluate(), ScopeInterpreter.NOT_COMBINER);
-        check.due("latest(0)", x.latest(0), 301);
-        check.due("latest(1)", x.latest(1), 300);
-        pushNested(x, 301);
-        check.due("301 frames", x.evaluate(), DEPTH_LIMIT);
-        check.due("latest(0)", x.latest(0), 301);
-        check.due("latest(1)", x.latest(1), 300);
         Lisp lisp = new Lisp(check);
         lisp.x.setLimit(1500);
         lisp.run("(define f (vau () #inert (begin (f) 1)))");
@@ -158,18 +133,6 @@ public final class MachineTest {
         lisp.run("(define g (lambda (n) (if (less n 1) 0 (add 1 (g (subtract n 1))))))");
         lisp.givesInteger("(g 80)", 80);
         lisp.fails("(begin (define a (f)) 2)", DEPTH_LIMIT);
-    }
-
-    private static void depthBeforeSteps() {
-        ScopeInterpreter x = new ScopeInterpreter();
-        pushNested(x, 301);
-        x.setLimit(301);
-        check.due("both limits: the frame is put down first", x.evaluate(), DEPTH_LIMIT);
-        pushNested(x, 301);
-        x.setLimit(300);
-        check.due("the limit of steps comes first", x.evaluate(), STEP_LIMIT);
-        check.due("latest(0)", x.latest(0), 300);
-        check.due("the frame is there before the step", x.latest(1), 300);
     }
 
     private static void latestNumbers() {
@@ -186,86 +149,5 @@ public final class MachineTest {
         x.reset();
         check.due("latest(0) after reset()", x.latest(0), 0);
         check.due("latest(1) after reset()", x.latest(1), 0);
-    }
-
-    /** Evaluates a text where the heap has this much room. */
-    private static void inRoom(int room, String text, int due, int left) {
-        Lisp lisp = new Lisp(check);
-        lisp.push(text);
-        lisp.leaveRoom(room);
-        check.due(text + " with room for " + room, lisp.x.evaluate(), due);
-        check.due(text + ": the room that is left", 4000 - lisp.x.heapSize(), left);
-        check.due(text + ": size", lisp.x.size(), due > 0 ? 1 : 0);
-    }
-
-    private static void heapFull() {
-        inRoom(0, "(define a 1)", HEAP_FULL, 0);
-        inRoom(1, "(define a 1)", 3, 0);
-        inRoom(0, "(set (scope) a 1)", HEAP_FULL, 0);
-        inRoom(1, "(set (scope) a 1)", 5, 0);
-        inRoom(0, "(vau a b c)", HEAP_FULL, 0);
-        inRoom(1, "(vau a b c)", 2, 0);
-        inRoom(0, "(environment)", HEAP_FULL, 0);
-        inRoom(1, "(environment)", 2, 0);
-        inRoom(2, "(cons 1 2)", HEAP_FULL, 0);
-        inRoom(3, "(cons 1 2)", 4, 0);
-        inRoom(1, "(wrap if)", HEAP_FULL, 0);
-        inRoom(2, "(wrap if)", 3, 0);
-        inRoom(2, "(apply list ())", HEAP_FULL, 0);
-        inRoom(3, "(apply list ())", 4, 0);
-    }
-
-    private static void heapFullInParts() {
-        inRoom(0, "(lambda a b)", HEAP_FULL, 0);
-        inRoom(1, "(lambda a b)", HEAP_FULL, 0);
-        inRoom(2, "(lambda a b)", 2, 0);
-        inRoom(2, "(list 1 2 3)", HEAP_FULL, 0);
-        inRoom(3, "(list 1 2 3)", 5, 0);
-        inRoom(4, "(list 1 2 3)", 5, 1);
-        inRoom(3, "((vau (a b) c 1) 1 2)", HEAP_FULL, 0);
-        inRoom(4, "((vau (a b) c 1) 1 2)", HEAP_FULL, 0);
-        inRoom(5, "((vau (a b) c 1) 1 2)", 4, 0);
-        inRoom(4, "((vau (a b) #inert 1) 1 2)", 4, 0);
-        inRoom(2, "(add (begin (define a 1) 2) (define b 3))", HEAP_FULL, 0);
-    }
-
-    private static void heapFullNotNeeded() {
-        inRoom(0, "(begin)", 2, 0);
-        inRoom(0, "(quote a)", 2, 0);
-        inRoom(0, "(add)", 2, 0);
-        inRoom(0, "(list)", 2, 0);
-        inRoom(0, "(define a b)", UNBOUND, 0);
-        inRoom(0, "(vau 1 2 3)", ScopeInterpreter.BAD_OPERANDS, 0);
-        inRoom(1, "((vau (a) b c))", ScopeInterpreter.BAD_OPERANDS, 0);
-        inRoom(1, "(begin (define a 1) (define a 2) a)", 9, 0);
-        inRoom(1, "(add #t)", ScopeInterpreter.BAD_OPERANDS, 0);
-    }
-
-    /** Applicatives around applicatives need no steps where there are no operands. */
-    private static void nestedApplicatives() {
-        Lisp lisp = new Lisp(check);
-        lisp.x.setLimit(1500);
-        lisp.run("(define w add)");
-        for (int count = 0; count < 100; count++) {
-            lisp.run("(define w (wrap w))");
-        }
-        lisp.costs("(w)", 2, 1, 0);
-        lisp.givesInteger("(w)", 0);
-        lisp.costs("(begin (w) (w) (w))", 8, 2, 0);
-        lisp.givesInteger("(w 5)", 5);
-        check.due("steps of (w 5)", lisp.x.latest(0), 2 + 101);
-    }
-
-    /** What failed evaluations leave unfinished must not be in the way of later ones. */
-    private static void manyFailuresAmongArguments() {
-        Lisp lisp = new Lisp(check);
-        lisp.push("(list 1 2 3 4 5 6 7 8 9 10 11 12 13 14 15 (add 1 2 3 4 5 6 7 8 9 10 11 12 13 14 15 z))");
-        for (int count = 0; count < 200; count++) {
-            lisp.x.pushCopy(0);
-            check.due("failure " + count, lisp.x.evaluate(), UNBOUND);
-            check.due("latest(1)", lisp.x.latest(1), 2);
-        }
-        lisp.givesList("(list 1 (add 2) 3)", 1, 2, 3);
-        check.due("latest(1)", lisp.x.latest(1), 2);
     }
 }

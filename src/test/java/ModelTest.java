@@ -1,10 +1,22 @@
 import java.util.Map;
 import java.util.TreeMap;
 
-/** Random runs of calls, made from fixed seeds, that must be answered as the Model answers them. */
+/**
+ * Random runs of calls, made from fixed seeds, that must be answered as the Model answers them. A
+ * run ends with the 512th call, as nothing is promised about an object behind it.
+ */
 public final class ModelTest {
-    private static final int RUNS = 4000;
-    private static final int CALLS = 150;
+    private static final int RUNS = 12000;
+    private static final int MOST_CALLS = 512;
+    /** Their names are what the random expressions call. */
+    private static final String[] HELPERS = {
+        "(define s60 (lambda (n l) (if (less n 1) l (s60 (subtract n 1) (cons n l)))))",
+        "(define s61 (vau a e (begin (s61 . a) 1)))",
+        "(define s62 (lambda (n) (if (less n 1) (environment) (environment (s62 (subtract n 1))))))",
+        "(define s63 (vau ((a b c d f g h i j k . l) . m) e (begin (s63 (a b c d f g h i j k) l m) e)))",
+        "(define a 5)", "(define b (list 1 2))", "(define c #f)", "(define d (environment (scope)))",
+        "(define e (lambda (a b) b))", "(define f (vau (a . b) c (eval a c)))"
+    };
     private static final int ANY = 0;
     private static final int INTEGER = 1;
     private static final int BOOLEAN = 2;
@@ -19,6 +31,12 @@ public final class ModelTest {
     private final ScopeInterpreter x = new ScopeInterpreter();
     private final Model model = new Model();
     private long state;
+    private int calls = 0;
+
+    /** Ends a run. */
+    private static final class Enough extends RuntimeException {
+        private static final long serialVersionUID = 1L;
+    }
 
     private ModelTest(int run) {
         this.run = run;
@@ -48,29 +66,62 @@ public final class ModelTest {
 
     private void same(String call, long got, long want) {
         check.due("run " + run + ": " + call, got, want);
+        calls++;
+        if (calls == MOST_CALLS) {
+            throw new Enough();
+        }
     }
 
     private void play() {
-        if (chance(30)) {
-            same("setLimit", x.setLimit(1500), model.setLimit(1500));
-        }
-        if (chance(50)) {
-            defineHelpers();
-        }
-        for (int call = 0; call < CALLS; call++) {
-            if (chance(40)) {
-                makeRoom();
-                expression(ANY, 2 + random(5));
-                evaluate();
-            } else {
-                randomCall();
+        try {
+            begin();
+            for (int round = 0; round < MOST_CALLS; round++) {
+                if (chance(40)) {
+                    makeRoom();
+                    expression(ANY, 2 + random(5));
+                    evaluate();
+                } else {
+                    randomCall();
+                }
             }
+        } catch (Enough enough) {
+            // the object has been asked as often as is promised
         }
     }
 
+    private void begin() {
+        if (chance(30)) {
+            same("setLimit", x.setLimit(1500), model.setLimit(1500));
+        }
+        if (chance(60)) {
+            for (int count = 1 + random(4); count > 0; count--) {
+                define(HELPERS[random(HELPERS.length)]);
+            }
+        }
+        if (chance(15)) {
+            fillHeap();
+        }
+    }
+
+    private void define(String text) {
+        replay(text);
+        evaluate();
+        same("drop", x.drop(1), model.drop(1));
+    }
+
+    /** Leaves some objects' room, so that small expressions find the heap full. */
+    private void fillHeap() {
+        define("(define s97 (vau (a b c d e f g) #inert (s97 1 2 3 4 5 6 7)))");
+        replay("(s97 1 2 3 4 5 6 7)");
+        int steps = 2 * (400 + random(100));
+        same("setLimit", x.setLimit(steps), model.setLimit(steps));
+        evaluate();
+        same("setLimit", x.setLimit(1000), model.setLimit(1000));
+    }
+
     private void makeRoom() {
-        if (x.size() > 20) {
-            int n = x.size() - random(5);
+        if (model.size() > 20) {
+            int n = model.size() - random(5);
             same("drop", x.drop(n), model.drop(n));
         }
     }
@@ -197,27 +248,9 @@ public final class ModelTest {
         same("pushEmpty", x.pushEmpty(isInert), model.pushEmpty(isInert));
     }
 
-    /** Defines a recursive function and a recursive operative, so that limits are reached. */
-    private void defineHelpers() {
-        Lisp reader = new Lisp(check);
-        String[] texts = {
-            "(define s60 (lambda (n l) (if (less n 1) l (s60 (subtract n 1) (cons n l)))))",
-            "(define s61 (vau a e (begin (s61 . a) 1)))",
-            "(define s62 (lambda (n) (if (less n 1) (environment) (environment (s62 (subtract n 1))))))",
-            "(define s63 (vau ((a b c d f g h i j k . l) . m) e (begin (s63 (a b c d f g h i j k) l m) e)))",
-            "(define a 5)", "(define b (list 1 2))", "(define c #f)", "(define d (environment (scope)))",
-            "(define e (lambda (a b) b))", "(define f (vau (a . b) c (eval a c)))"
-        };
-        for (String text : texts) {
-            replay(reader, text);
-            evaluate();
-            same("drop", x.drop(1), model.drop(1));
-        }
-    }
-
     /** Pushes a text on both; the reader's interpreter is only used to take it apart. */
-    private void replay(Lisp reader, String text) {
-        reader.x.reset();
+    private void replay(String text) {
+        Lisp reader = new Lisp(check);
         reader.push(text);
         copyFrom(reader.x);
     }

@@ -11,8 +11,6 @@ public final class OperativesTest {
         ifs();
         vaus();
         badVaus();
-        parameterTreesOfHundredPairs();
-        sharedParameterTrees();
         lambdas();
         defines();
         sets();
@@ -119,70 +117,6 @@ public final class OperativesTest {
         lisp.givesInteger("((vau (b) #inert b) 5)", 5);
         lisp.fails("((vau (() b c) #inert b) 5 6 7)", BAD_OPERANDS);
         lisp.givesInteger("((vau (b) #inert b) 5)", 5);
-    }
-
-    /** A list of so many inert values, ending with a symbol, as a parameter tree; then ready to evaluate. */
-    private static void pushVauOf(ScopeInterpreter x, int pairs) {
-        x.pushSymbol(1);
-        x.pushEmpty(false);
-        pushDeeper(x, pairs);
-        x.pushEmpty(true);
-        x.pushInteger(1);
-        x.makeList(4);
-    }
-
-    /** Makes the value on the stack deeper by a chain of pairs, through the car. */
-    private static void pushDeeper(ScopeInterpreter x, int pairs) {
-        for (int count = 0; count < pairs; count++) {
-            x.pushEmpty(true);
-            x.makePair();
-        }
-    }
-
-    private static void parameterTreesOfHundredPairs() {
-        ScopeInterpreter x = new ScopeInterpreter();
-        pushVauOf(x, 100);
-        check.due("a tree of 100 pairs", x.evaluate(), 2);
-        pushVauOf(x, 101);
-        check.due("a tree of 101 pairs", x.evaluate(), BAD_OPERANDS);
-        x.reset();
-        x.pushSymbol(1);
-        x.pushSymbol(99);
-        for (int count = 0; count < 99; count++) {
-            x.pushSymbol(count);
-            x.makePair();
-        }
-        x.pushEmpty(true);
-        x.pushSymbol(98);
-        x.makeList(4);
-        check.due("a tree of 100 symbols", x.evaluate(), 2);
-        x.pushInteger(-1);
-        for (int count = 0; count < 99; count++) {
-            x.pushInteger(count);
-            x.makePair();
-        }
-        x.makePair();
-        int before = x.heapSize();
-        check.due("100 symbols are bound", x.evaluate(), 3);
-        check.due("value of symbol 98", x.value(0), 98);
-        check.due("an environment and 100 bindings", x.heapSize() - before, 101);
-    }
-
-    /** Pairs count as often as they occur: a tree whose car and cdr are shared doubles. */
-    private static void sharedParameterTrees() {
-        for (int doublings = 5; doublings <= 60; doublings++) {
-            ScopeInterpreter x = new ScopeInterpreter();
-            x.pushSymbol(1);
-            x.pushEmpty(true);
-            for (int count = 0; count < doublings; count++) {
-                x.pushCopy(0);
-                x.makePair();
-            }
-            x.pushEmpty(true);
-            x.pushInteger(1);
-            x.makeList(4);
-            check.due("doublings: " + doublings, x.evaluate(), doublings <= 6 ? 2 : BAD_OPERANDS);
-        }
     }
 
     private static void lambdas() {
