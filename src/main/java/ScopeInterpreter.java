@@ -871,7 +871,7 @@ public final class ScopeInterpreter {
         private static final int RETURNING = 3;
         private static final int ENDED = 4;
         /** Applicatives may be nested 4000 deep and then combine as often in each of 1500 steps. */
-        private static final int MOST_TURNS = 100000000;
+        private static final int MOST_TURNS = 10000000;
 
         private static final int IF = 0;
         private static final int VAU = 1;
@@ -1128,8 +1128,8 @@ public final class ScopeInterpreter {
 
         private void combineWithArguments(long underlying, int gathered) {
             long list = Word.NIL;
-            for (int made = 0; made < gathered && argumentCount > 0; made++) {
-                int pair = heap.addPair(arguments[argumentCount - 1], list);
+            for (int made = 0; made < gathered; made++) {
+                int pair = heap.addPair(latestArgument(), list);
                 if (pair == Heap.NO_ROW) {
                     fail(HEAP_FULL);
                     return;
@@ -1138,6 +1138,11 @@ public final class ScopeInterpreter {
                 list = Word.make(Word.PAIR, pair);
             }
             combine(underlying, list);
+        }
+
+        private long latestArgument() {
+            int index = argumentCount - 1;
+            return index >= 0 && index < GREATEST_LIMIT ? arguments[index] : Word.NIL;
         }
 
         private void combineCompound(int operative) {

@@ -35,6 +35,7 @@ public final class MachineEdgesTest {
         framesOfEachKind();
         frameIsTakenAway();
         depthBeforeSteps();
+        depthAndFullHeap();
         framesAfterFailure();
         nestedApplicatives();
         latestOutOfRange();
@@ -233,6 +234,16 @@ public final class MachineEdgesTest {
         lisp.failsAfter("(add 1000000000000000 1)", STEP_LIMIT, 3, 1, 0);
         lisp.x.setLimit(4);
         lisp.failsAfter("(add 1000000000000000 1)", OVERFLOW, 4, 1, 2);
+        lisp.x.setLimit(1000);
+        lisp.leaveRoom(20);
+        lisp.push("(cons 1 2)");
+        lisp.x.pushCopy(0);
+        lisp.waste(4000 - lisp.x.heapSize());
+        lisp.x.setLimit(3);
+        check.due("three steps in the full heap", lisp.x.evaluate(), STEP_LIMIT);
+        lisp.x.setLimit(4);
+        check.due("four steps in the full heap", lisp.x.evaluate(), HEAP_FULL);
+        check.due("latest(0)", lisp.x.latest(0), 4);
     }
 
     // ---- frames
@@ -352,6 +363,21 @@ public final class MachineEdgesTest {
             check.due("301 frames in " + limits[index] + " steps", lisp.x.evaluate(), due[index]);
             check.due("latest(0)", lisp.x.latest(0), Math.min(limits[index], 301));
             check.due("latest(1)", lisp.x.latest(1), 300);
+        }
+    }
+
+    /** Where the frames do not suffice, the operatives that would need objects are not yet called. */
+    private static void depthAndFullHeap() {
+        int[] frames = {300, 301};
+        int[] due = {HEAP_FULL, DEPTH_LIMIT};
+        for (int index = 0; index < frames.length; index++) {
+            Lisp lisp = new Lisp(check);
+            lisp.run("(define w (vau #inert #inert w))");
+            lisp.push("w");
+            lisp.nest(frames[index]);
+            lisp.leaveRoom(0);
+            check.due(frames[index] + " frames in the full heap", lisp.x.evaluate(), due[index]);
+            check.due("latest(0)", lisp.x.latest(0), 301);
         }
     }
 
