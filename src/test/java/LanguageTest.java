@@ -6,7 +6,9 @@ import java.nio.file.Files;
 import java.nio.file.Path;
 import java.util.ArrayList;
 import java.util.List;
+import java.util.Map;
 import java.util.Set;
+import java.util.TreeMap;
 import java.util.TreeSet;
 import java.util.regex.Matcher;
 import java.util.regex.Pattern;
@@ -29,7 +31,9 @@ public final class LanguageTest {
             fields(one);
             methods(one);
         }
+        check.due(all.size() + " classes are few", all.size() <= 12);
         privateNames();
+        calls(bodies(source));
         check.finish();
     }
 
@@ -141,5 +145,54 @@ public final class LanguageTest {
             boolean isPrivate = Modifier.isPrivate(method.getModifiers());
             check.due(method + " has a name of its own", !isPrivate || !names.contains(method.getName()));
         }
+    }
+
+    /**
+     * The text of each method and constructor by its name. Two of one name are not allowed, though the
+     * rules have nothing against them, so that a name tells what is called.
+     */
+    private static Map<String, String> bodies(String source) {
+        Map<String, String> bodies = new TreeMap<>();
+        String head = "\\n( {4}| {8})(?:(?:public|private|static|final) )*(?:[\\w\\[\\]]+ )?(\\w+)\\([^)]*\\) \\{\\n";
+        Matcher found = Pattern.compile("(?s)" + head + "(.*?)\\n\\1\\}").matcher(source);
+        while (found.find()) {
+            String name = found.group(2);
+            check.due(name + " is the name of one method", bodies.put(name, found.group(3)) == null);
+            check.due(name + " is short", found.group(3).split("\n").length <= 60);
+        }
+        for (Method method : ScopeInterpreter.class.getDeclaredMethods()) {
+            check.due(method + " is found in the source", bodies.containsKey(method.getName()));
+        }
+        return bodies;
+    }
+
+    /** Rules 8 and 11: no recursion, and no calls more than eight deep. */
+    private static void calls(Map<String, String> bodies) {
+        Map<String, Set<String>> called = new TreeMap<>();
+        for (Map.Entry<String, String> body : bodies.entrySet()) {
+            Set<String> names = new TreeSet<>();
+            Matcher found = Pattern.compile("\\b(\\w+)\\(").matcher(body.getValue());
+            while (found.find()) {
+                if (bodies.containsKey(found.group(1))) {
+                    names.add(found.group(1));
+                }
+            }
+            called.put(body.getKey(), names);
+        }
+        for (String name : called.keySet()) {
+            check.due(name + " calls at most eight deep", isShallow(name, called, 8));
+        }
+    }
+
+    private static boolean isShallow(String name, Map<String, Set<String>> called, int levels) {
+        if (levels == 0) {
+            return false;
+        }
+        for (String next : called.get(name)) {
+            if (!isShallow(next, called, levels - 1)) {
+                return false;
+            }
+        }
+        return true;
     }
 }
